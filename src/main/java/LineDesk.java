@@ -48,6 +48,8 @@ public final class LineDesk {
     private static final int TIGHT = 3;
 
     private static final int LAST_PASS = 3;
+    private static final int MOST_PLACES = (MOST_BREAKS + 1) * CLASSES;
+    private static final long MOST_OUT = 2147483647L;
 
     private final Settings settings;
     private final Items items;
@@ -247,7 +249,10 @@ public final class LineDesk {
         }
     }
 
-    /** The items, with the sums of all that stand before each, so that a line is a difference. */
+    /**
+     * The items, with the sums of all that stand before each, so that a line is a difference. What
+     * only penalties or cuts have is looked at for these alone, so others leave it as it was.
+     */
     private static final class Items {
         int count;
         int[] kind;
@@ -282,10 +287,6 @@ public final class LineDesk {
             }
             int number = count;
             kind[number] = newKind;
-            cost[number] = 0;
-            ahead[number] = 0;
-            behind[number] = 0;
-            flags[number] = 0;
             width[number + 1] = width[number] + newWidth;
             stretch[number + 1] = stretch[number];
             highStretch[number + 1] = highStretch[number];
@@ -597,11 +598,11 @@ public final class LineDesk {
     }
 
     /**
-     * Finds the best way of a pass. A place is a break with the class of the line up to it; the
-     * places are filled layer by layer, a layer for each number of lines, since a line's measure
-     * hangs on its number. The last layer also has all longer ways: behind the last measure the
-     * number no longer matters, unless a looseness asks for it, and then there is a layer for
-     * each number of lines that can be.
+     * Finds the way of a pass. A place is a break with the class of the line up to it; the places
+     * are filled layer by layer, a layer for each number of lines, since a line's measure hangs on
+     * its number. In an open search the last layer also has all longer ways: behind the last
+     * measure the number no longer matters. A looseness asks for it, so then there is a second
+     * search, with a layer for each number of lines up to the highest one that is wanted.
      */
     private static final class Search {
         final Settings settings;
@@ -614,8 +615,10 @@ public final class LineDesk {
         Row now;
         int pass;
         int layers;
+        boolean open;
         int places;
-        int bestLayer;
+        int wayLayer;
+        int wayCount;
         int[] endClass;
         int[] trail;
         int[] back;
@@ -637,6 +640,23 @@ public final class LineDesk {
         boolean findWay(int newPass) {
             pass = newPass;
             breaks.gather(items, settings, pass > 1);
+            fillLayers(Math.min(breaks.count, settings.measureCount), true);
+            if (!best.any) {
+                return false;
+            }
+            wayCount = best.lineCount[0];
+            int goal = Math.max(1, Math.min(breaks.count, wayCount + settings.rules[LOOSENESS]));
+            if (goal != wayCount) {
+                fillLayers(Math.max(goal, wayCount), false);
+                wayLayer = nearestTo(goal, wayCount);
+                wayCount = wayLayer;
+            }
+            return true;
+        }
+
+        private void fillLayers(int newLayers, boolean newOpen) {
+            layers = newLayers;
+            open = newOpen;
             prepareRows();
             before.offer(DECENT, 0, 0, 0, 0);
             for (int layer = 1; layer <= layers; layer++) {
@@ -649,36 +669,29 @@ public final class LineDesk {
                 now = before;
                 before = filled;
             }
-            return best.any;
         }
 
         private void prepareRows() {
             int count = breaks.count;
-            layers = settings.rules[LOOSENESS] == 0 ? Math.min(count, settings.measureCount) : count;
             places = (count + 1) * CLASSES;
             if (count >= trail.length) {
                 int room = grown(trail.length, count + 1, MOST_BREAKS + 1);
                 trail = new int[room];
                 endClass = new int[room];
             }
-            int most = MOST_BREAKS * mostPlaces();
             if (layers * places > back.length) {
-                back = new int[grown(back.length, layers * places, most)];
+                back = new int[grown(back.length, layers * places, MOST_BREAKS * MOST_PLACES)];
             }
-            before.forget(places, mostPlaces());
+            before.forget(places, MOST_PLACES);
             best.forget(1, 1);
-            bestLayer = 0;
             Arrays.fill(endClass, NONE);
         }
 
-        private static int mostPlaces() {
-            return (MOST_BREAKS + 1) * CLASSES;
-        }
-
+        /** A break has at most as many lines up to it as its own number, so lower breaks are left out. */
         private void fillLayer(int layer) {
-            now.forget(places, mostPlaces());
-            for (int b = 1; b <= breaks.count; b++) {
-                for (int a = breaks.lowestBefore[b]; a < b; a++) {
+            now.forget(places, MOST_PLACES);
+            for (int b = layer; b <= breaks.count; b++) {
+                for (int a = Math.max(breaks.lowestBefore[b], layer - 1); a < b; a++) {
                     reach(layer, a, b);
                 }
             }
@@ -687,7 +700,7 @@ public final class LineDesk {
         /** Breaks and classes are tried from the lowest on, so the first of equal ways stays. */
         private void reach(int layer, int a, int b) {
             boolean fromBefore = before.hasAny(a);
-            boolean fromNow = layer == layers && now.hasAny(a);
+            boolean fromNow = open && layer == layers && now.hasAny(a);
             if (!fromBefore && !fromNow) {
                 return;
             }
@@ -697,10 +710,10 @@ public final class LineDesk {
             }
             long demerits = demeritsOf(a, b);
             if (fromBefore) {
-                extend(before, layer, a, b, demerits);
+                extend(before, a, b, layer, demerits, 0);
             }
             if (fromNow) {
-                extend(now, layer, a, b, demerits);
+                extend(now, a, b, layer, demerits, 1);
             }
         }
 
@@ -712,10 +725,9 @@ public final class LineDesk {
             return fit.out == 0 && fit.badness <= limit;
         }
 
-        private void extend(Row from, int layer, int a, int b, long demerits) {
+        private void extend(Row from, int a, int b, int layer, long demerits, int sameLayer) {
             int place = b * CLASSES + fit.fitClass;
             int over = pass == LAST_PASS && fit.badness > settings.rules[TOLERANCE] ? 1 : 0;
-            int sameLayer = from == now ? 1 : 0;
             for (int c = 0; c < CLASSES; c++) {
                 int old = a * CLASSES + c;
                 if (from.has(old) && now.offer(place, from.out[old] + fit.out, from.over[old] + over,
@@ -749,10 +761,9 @@ public final class LineDesk {
         }
 
         private void noteEnd(int layer) {
-            int first = breaks.count * CLASSES;
             layerBest.forget(1, 1);
             for (int c = 0; c < CLASSES; c++) {
-                int place = first + c;
+                int place = breaks.count * CLASSES + c;
                 if (now.has(place) && layerBest.offer(0, now.out[place], now.over[place],
                         now.demerits[place], now.lineCount[place])) {
                     endClass[layer] = c;
@@ -760,31 +771,26 @@ public final class LineDesk {
             }
             if (layerBest.any && best.offer(0, layerBest.out[0], layerBest.over[0],
                     layerBest.demerits[0], layerBest.lineCount[0])) {
-                bestLayer = layer;
+                wayLayer = layer;
             }
         }
 
-        /** With a looseness a layer's number is that of its lines. */
-        private int chooseLayer() {
-            int looseness = settings.rules[LOOSENESS];
-            int goal = Math.max(1, Math.min(layers, bestLayer + looseness));
-            for (int away = Math.abs(goal - bestLayer); away > 0; away--) {
-                int layer = goal > bestLayer ? bestLayer + away : bestLayer - away;
+        /** The number of lines nearest to the goal for which there is a way; for the own one there is. */
+        private int nearestTo(int goal, int own) {
+            for (int away = Math.abs(goal - own); away > 0; away--) {
+                int layer = goal > own ? own + away : own - away;
                 if (endClass[layer] != NONE) {
                     return layer;
                 }
             }
-            return bestLayer;
+            return own;
         }
 
         void writeTo(Made made) {
-            boolean free = settings.rules[LOOSENESS] == 0;
-            int layer = free ? bestLayer : chooseLayer();
-            int count = free ? best.lineCount[0] : layer;
-            traceBack(layer, count);
-            made.start(pass, count);
+            traceBack();
+            made.start(pass, wayCount);
             int classBefore = DECENT;
-            for (int k = 1; k <= count; k++) {
+            for (int k = 1; k <= wayCount; k++) {
                 int a = trail[k - 1];
                 int b = trail[k];
                 fit.judge(this, a, b, k);
@@ -795,10 +801,10 @@ public final class LineDesk {
             }
         }
 
-        private void traceBack(int lastLayer, int count) {
-            int layer = lastLayer;
-            int place = breaks.count * CLASSES + endClass[lastLayer];
-            for (int k = count; k >= 1 && layer >= 1; k--) {
+        private void traceBack() {
+            int layer = wayLayer;
+            int place = breaks.count * CLASSES + endClass[layer];
+            for (int k = wayCount; k >= 1 && layer >= 1; k--) {
                 trail[k] = place / CLASSES;
                 int step = back[(layer - 1) * places + place];
                 place = step / 2;
@@ -852,7 +858,7 @@ public final class LineDesk {
             end[at] = newEnd;
             badness[at] = fit.badness;
             fitClass[at] = fit.fitClass;
-            out[at] = (int) Math.min(Integer.MAX_VALUE, fit.out);
+            out[at] = (int) Math.min(MOST_OUT, fit.out);
             allOut += fit.out;
         }
     }

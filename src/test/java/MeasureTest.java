@@ -3,6 +3,7 @@ public final class MeasureTest {
     public static void main(String[] args) {
         answers();
         mostMeasures();
+        lineOfEachMeasure();
         linesHaveTheirMeasures();
         refusedChangesNothing();
         Check.end();
@@ -36,6 +37,19 @@ public final class MeasureTest {
         Check.due("measure(256, 9)", desk.measure(256, 9), true);
         Check.due("measure(258, 1)", desk.measure(258, 1), false);
         Check.due("measure(257, 1) again", desk.measure(257, 1), false);
+    }
+
+    /** 256 lines with nothing in them, each sticking out by what its measure is below 0. */
+    private static void lineOfEachMeasure() {
+        LineDesk desk = new LineDesk();
+        for (int k = 2; k <= 256; k++) {
+            desk.measure(k, -k);
+        }
+        for (int k = 2; k <= 256; k++) {
+            desk.penalty(-10000);
+        }
+        Check.lines(desk, 256);
+        Check.due("about(3)", desk.about(3), 256 * 257 / 2 - 1);
     }
 
     /** Each forced line sticks out by 100 less its measure. */
