@@ -6,11 +6,31 @@ final class Check {
 
     static final long STATE = Long.MIN_VALUE + 1;
     static final long INDEX = Long.MIN_VALUE + 2;
+    static final int WIDEST = 1073741823;
 
     private static int wrong = 0;
     private static int done = 0;
 
     private Check() {
+    }
+
+    /** A test of its own for some words of the document; it tells them if they are broken. */
+    static void sentence(String words, Runnable test) {
+        int wrongBefore = wrong;
+        int doneBefore = done;
+        try {
+            test.run();
+        } catch (RuntimeException e) {
+            wrong++;
+            System.out.println("thrown: " + e);
+        }
+        if (done == doneBefore && wrong == wrongBefore) {
+            wrong++;
+            System.out.println("nothing looked at");
+        }
+        if (wrong != wrongBefore) {
+            System.out.println("broken: " + words);
+        }
     }
 
     static void due(String what, long got, long want) {
@@ -25,6 +45,10 @@ final class Check {
 
     static void due(String what, boolean got, boolean want) {
         due(what, got ? 1 : 0, want ? 1 : 0);
+    }
+
+    static void due(String what, String got, String want) {
+        due(what + ": '" + got + "', due is '" + want + "'", got.equals(want), true);
     }
 
     /** The call's answer, or the number that stands for the exception that it throws. */
@@ -42,7 +66,7 @@ final class Check {
         due("lines()", answer(desk::lines), want);
     }
 
-    /** All five numbers of a line: begin, break, badness, class, how much it sticks out. */
+    /** The first of the five numbers of a line: begin, break, badness, class, what sticks out. */
     static void line(LineDesk desk, int k, int... want) {
         for (int what = 0; what < want.length; what++) {
             int w = what;
@@ -50,7 +74,16 @@ final class Check {
         }
     }
 
-    /** Pass, lines, demerits, what sticks out, lines above TOLERANCE. */
+    /** One of the five numbers, of each line from the first on; there are no more lines. */
+    static void column(LineDesk desk, int what, int... want) {
+        due("how many lines", desk.about(1), want.length);
+        for (int k = 1; k <= want.length; k++) {
+            int line = k;
+            due("line(" + k + ", " + what + ")", answer(() -> desk.line(line, what)), want[k - 1]);
+        }
+    }
+
+    /** The first of: pass, lines, demerits, what sticks out, lines above TOLERANCE, items. */
     static void about(LineDesk desk, long... want) {
         for (int what = 0; what < want.length; what++) {
             due("about(" + what + ")", desk.about(what), want[what]);
