@@ -2,8 +2,6 @@ import java.util.Random;
 
 /** Random runs of calls, each answer compared with what trying every way says. */
 public final class BestWayTest {
-    private static final int MOST_TRIED = 11;
-
     private final Random random;
     private final LineDesk desk = new LineDesk();
     private final Reference reference = new Reference();
@@ -130,7 +128,7 @@ public final class BestWayTest {
             checkSkip();
         }
         for (int round = 0; round < 3; round++) {
-            for (int n = 2 + random.nextInt(20); n > 0 && reference.countBreaks() < MOST_TRIED; n--) {
+            for (int n = 2 + random.nextInt(20); n > 0 && reference.countBreaks() < Reference.MOST_TRIED; n--) {
                 checkItem();
             }
             checkLines();

@@ -1,31 +1,44 @@
 import java.util.ArrayList;
+import java.util.HashMap;
 import java.util.List;
+import java.util.Map;
 
 /**
  * The document once more, by trying every way there is: slow, but with nothing to get wrong but
- * the reading. Good for some fourteen breaks.
+ * the reading. With more than MOST_TRIED breaks, of the ways up to a break which have equally many
+ * lines and the same class of the last one only the best is kept, whole: what comes behind them is
+ * the same for all.
  */
 final class Reference {
+    static final int MOST_TRIED = 11;
+
     private static final int MAX = 1073741823;
 
-    private record Item(char kind, int width, int stretch, int order, int shrink, int p, int ahead, int behind, int flags) {
+    private record Item(char kind, int width, int stretch, int order, int shrink,
+                        int p, int ahead, int behind, int flags) {
     }
 
     private record Line(int begin, int end, long badness, int fitClass, long out, long demerits) {
     }
 
-    private static final class Way {
-        final List<Line> lines = new ArrayList<>();
-        long out;
-        long over;
-        long demerits;
+    /** A way up to the break of its last line; without lines it has no last one, and none before. */
+    private record Way(Way before, Line last, int count, long out, long over, long demerits) {
+        int end() {
+            return last == null ? -1 : last.end;
+        }
+
+        int fitClass() {
+            return last == null ? 2 : last.fitClass;
+        }
     }
+
+    private static final Way FRONT = new Way(null, null, 0, 0, 0, 0);
 
     private final int[] rules = {100, 200, 10, 50, 50, 10000, 10000, 5000, 0};
     private final List<Integer> measures = new ArrayList<>(List.of(0));
     private final Item[] skips = {glueItem(0, 0, 0, 0), glueItem(0, 0, 0, 0)};
     private final List<Item> items = new ArrayList<>();
-    private Way made = new Way();
+    private Way made = FRONT;
     private int pass = 0;
 
     private static Item glueItem(int width, int stretch, int order, int shrink) {
@@ -227,55 +240,61 @@ final class Reference {
         return demerits;
     }
 
-    private Way wayOf(List<Integer> breaks) {
-        Way way = new Way();
-        int before = -1;
-        int classBefore = 2;
-        for (int own : breaks) {
-            Line line = lineOf(before, own, way.lines.size() + 1, classBefore);
-            way.lines.add(line);
-            way.out += line.out;
-            way.over += line.badness > rules[1] ? 1 : 0;
-            way.demerits += line.demerits;
-            before = own;
-            classBefore = line.fitClass;
-        }
-        return way;
+    private Way extend(Way way, int own) {
+        Line line = lineOf(way.end(), own, way.count + 1, way.fitClass());
+        return new Way(way, line, way.count + 1, way.out + line.out,
+            way.over + (line.badness > rules[1] ? 1 : 0), way.demerits + line.demerits);
     }
 
-    private boolean counts(Way way, int inPass) {
-        for (Line line : way.lines) {
-            if (inPass < 3 && (line.out > 0 || line.badness > rules[inPass - 1])) {
-                return false;
-            }
-        }
-        return true;
+    private boolean counts(Line line, int inPass) {
+        return inPass == 3 || line.out == 0 && line.badness <= rules[inPass - 1];
     }
 
     private List<Way> ways(int inPass) {
         List<Integer> breaks = breaks(inPass);
+        return breaks.size() <= MOST_TRIED ? everyWay(breaks, inPass) : keptWays(breaks, inPass);
+    }
+
+    private List<Way> everyWay(List<Integer> breaks, int inPass) {
         int free = breaks.size() - 1;
         List<Way> found = new ArrayList<>();
         for (int mask = 0; mask < 1 << free; mask++) {
-            List<Integer> chosen = new ArrayList<>();
+            Way way = FRONT;
             boolean good = true;
-            for (int j = 0; j < free; j++) {
-                if ((mask >> j & 1) != 0) {
-                    chosen.add(breaks.get(j));
-                } else if (penaltyOf(breaks.get(j)) <= -10000) {
-                    good = false;
+            for (int j = 0; j <= free && good; j++) {
+                if (j == free || (mask >> j & 1) != 0) {
+                    way = extend(way, breaks.get(j));
+                    good = counts(way.last, inPass);
+                } else {
+                    good = penaltyOf(breaks.get(j)) > -10000;
                 }
             }
-            chosen.add(items.size());
-            if (!good) {
-                continue;
-            }
-            Way way = wayOf(chosen);
-            if (counts(way, inPass)) {
+            if (good) {
                 found.add(way);
             }
         }
         return found;
+    }
+
+    private List<Way> keptWays(List<Integer> breaks, int inPass) {
+        List<Way> open = new ArrayList<>(List.of(FRONT));
+        List<Way> kept = List.of();
+        for (int own : breaks) {
+            Map<Integer, Way> best = new HashMap<>();
+            for (Way way : open) {
+                Way longer = extend(way, own);
+                if (counts(longer.last, inPass)) {
+                    best.merge(longer.count * 4 + longer.fitClass(), longer,
+                        (a, b) -> compare(a, b, inPass) <= 0 ? a : b);
+                }
+            }
+            kept = new ArrayList<>(best.values());
+            if (penaltyOf(own) <= -10000) {
+                open.clear();
+            }
+            open.addAll(kept);
+        }
+        return kept;
     }
 
     /** Below 0 if the first way is better. */
@@ -289,19 +308,15 @@ final class Reference {
         if (a.demerits != b.demerits) {
             return Long.compare(a.demerits, b.demerits);
         }
-        if (a.lines.size() != b.lines.size()) {
-            return Integer.compare(a.lines.size(), b.lines.size());
+        if (a.count != b.count) {
+            return Integer.compare(a.count, b.count);
         }
-        for (int k = a.lines.size() - 1; k >= 0; k--) {
-            int classA = a.lines.get(k).fitClass;
-            int classB = b.lines.get(k).fitClass;
-            if (classA != classB) {
-                return Integer.compare(classA, classB);
+        for (; a.last != null; a = a.before, b = b.before) {
+            if (a.fitClass() != b.fitClass()) {
+                return Integer.compare(a.fitClass(), b.fitClass());
             }
-            int beforeA = k == 0 ? -1 : a.lines.get(k - 1).end;
-            int beforeB = k == 0 ? -1 : b.lines.get(k - 1).end;
-            if (beforeA != beforeB) {
-                return Integer.compare(beforeA, beforeB);
+            if (a.before.end() != b.before.end()) {
+                return Integer.compare(a.before.end(), b.before.end());
             }
         }
         return 0;
@@ -310,7 +325,7 @@ final class Reference {
     private static Way bestOf(List<Way> ways, int inPass, int lineCount) {
         Way best = null;
         for (Way way : ways) {
-            if (lineCount != 0 && way.lines.size() != lineCount) {
+            if (lineCount != 0 && way.count != lineCount) {
                 continue;
             }
             if (best == null || compare(way, best, inPass) < 0) {
@@ -330,10 +345,11 @@ final class Reference {
             if (best == null) {
                 continue;
             }
-            int own = best.lines.size();
+            int own = best.count;
             int q = rules[8];
-            for (int n = own + q; n != own; n += q > 0 ? -1 : 1) {
-                Way other = n >= 1 ? bestOf(ways, p, n) : null;
+            int goal = Math.max(1, Math.min(breaks(p).size(), own + q));
+            for (int n = goal; n != own; n += q > 0 ? -1 : 1) {
+                Way other = bestOf(ways, p, n);
                 if (other != null) {
                     best = other;
                     break;
@@ -341,16 +357,20 @@ final class Reference {
             }
             made = best;
             pass = p;
-            return best.lines.size();
+            return best.count;
         }
         throw new AssertionError("pass 3 has no way");
     }
 
     int line(int k, int what) {
-        if (k < 1 || k > made.lines.size() || what < 0 || what > 4) {
+        if (k < 1 || k > made.count || what < 0 || what > 4) {
             throw new IndexOutOfBoundsException();
         }
-        Line line = made.lines.get(k - 1);
+        Way way = made;
+        while (way.count > k) {
+            way = way.before;
+        }
+        Line line = way.last;
         return switch (what) {
             case 0 -> line.begin;
             case 1 -> line.end;
@@ -363,7 +383,7 @@ final class Reference {
     long about(int what) {
         return switch (what) {
             case 0 -> pass;
-            case 1 -> made.lines.size();
+            case 1 -> made.count;
             case 2 -> made.demerits;
             case 3 -> made.out;
             case 4 -> made.over;
